@@ -125,7 +125,7 @@ public final class DeedTest {
 
     private static void endsDays() {
         RainJury x = Check.with("juror a leans 1;juror b leans less 1;juror c;proof p 9;weather u;weather v;weather w;"
-                + "follows u guilty v free w;follows v guilty w free u;crop c1 on u 5 on v less 7;".replace("c1", "k")
+                + "follows u guilty v free w;follows v guilty w free u;crop k on u 5 on v less 7;"
                 + "crop d on w 1;law all;");
         CHECK.good(x, "HUNG", x.endDay(), 0);
         CHECK.good(x, "the WEATHER stays", x.many(8), 0);
