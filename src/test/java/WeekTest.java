@@ -210,18 +210,18 @@ public final class WeekTest {
         CHECK.fraction(x, "what has GROWN ahead, too", -4, 1);
         RainJury y = Check.with("juror a;weather u;weather v;follows u guilty v free u;crop k on v 6;", "mood;verdict;verdict;");
         int sum = 0;
-        for (int seed = 40; seed < 52; seed++) {
+        for (int seed = 40; seed < 51; seed++) {
             y.mark();
             y.live(seed);
             sum += y.crop(0);
             y.back();
         }
-        y.mean(0, 40, 12);
+        y.mean(0, 40, 11);
         CHECK.due("the mean is no whole number", y.bottom() > 1, true);
-        CHECK.due("mean of 12", y.top() * 12, sum * y.bottom());
+        CHECK.due("mean of 11", y.top() * 11, sum * y.bottom());
         CHECK.due("without a common divisor", gcd(y.top(), y.bottom()), 1);
         CHECK.bad(y, "wrong", y.mean(1, 0, 1), 2);
-        CHECK.due("the FRACTION stays", y.top() * 12, sum * y.bottom());
+        CHECK.due("the FRACTION stays", y.top() * 11, sum * y.bottom());
         RainJury z = Check.with("crop k;", "mood;");
         z.mean(0, 0, 20);
         CHECK.fraction(z, "0 of 20", 0, 1);
