@@ -229,5 +229,14 @@ public final class VoteTest {
         CHECK.good(far, "ROUND 100", far.soonest(1), 100);
         far.strike(0);
         CHECK.good(far, "FREE", far.soonest(-1), 0);
+        // c leans above 0 behind ROUND 199, and d, whose turn is ahead of c's, moves from ROUND 200 on.
+        String chain = "juror a leans 1;juror b leans less 99;juror d leans less 1 stubborn 1;juror c leans less 99;"
+                + "sways a b 1;sways b c 1;sways a d 1;sways c d 1;law all;";
+        RainJury at200 = Check.with(chain);
+        CHECK.good(at200, "ROUND 200", at200.soonest(1), 200);
+        CHECK.good(at200, "after(199)", at200.after(199), 0);
+        CHECK.good(at200, "after(200)", at200.after(200), 1);
+        at200.lean(2, -2);
+        CHECK.bad(at200, "ROUND 201", at200.soonest(1), 8);
     }
 }

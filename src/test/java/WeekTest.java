@@ -56,6 +56,8 @@ public final class WeekTest {
         RainJury y = Check.with(COURT + "law all;", "verdict;strike b;verdict;verdict;strike a;strike b;strike c;verdict;");
         CHECK.good(y, "live(0)", y.live(0), 8);
         life(y, "days", 0, 4, 1, 3, 0);
+        CHECK.good(y, "a life anew", y.live(0), 8);
+        life(y, "days anew", 0, 4, 1, 3, 0);
     }
 
     private static void missesAtLimits() {
