@@ -578,22 +578,18 @@ public final class RainJury {
     }
 
     public int strikes(int n) {
-        if (n < 1 || n > MOST_STRIKES) {
-            return none(BAD_NUMBER);
-        }
-        if (world.hall.seatedCount() < 2 * n) {
-            return none(CANNOT_BE);
+        int wrong = wrongStrikes(n);
+        if (wrong != 0) {
+            return none(wrong);
         }
         int guilty = world.hall.guiltyVotes();
         return answer(bestPlay(world.court.law, guilty, world.hall.seatedCount() - guilty, 2 * n));
     }
 
     public int firstStrike(int n) {
-        if (n < 1 || n > MOST_STRIKES) {
-            return none(BAD_NUMBER);
-        }
-        if (world.hall.seatedCount() < 2 * n) {
-            return none(CANNOT_BE);
+        int wrong = wrongStrikes(n);
+        if (wrong != 0) {
+            return none(wrong);
         }
         return answer(firstOfBest(2 * n));
     }
@@ -841,22 +837,25 @@ public final class RainJury {
         return seed < 0 || seed > MOST_COUNTED;
     }
 
-    private int wrongPlace(int tray, int place) {
+    private int wrongTray(int tray) {
         if (!isTray(tray)) {
             return NO_TRAY;
         }
-        if (trays.isMissing(tray)) {
-            return IS_MISSING;
+        return trays.isMissing(tray) ? IS_MISSING : 0;
+    }
+
+    private int wrongPlace(int tray, int place) {
+        int wrong = wrongTray(tray);
+        if (wrong != 0) {
+            return wrong;
         }
         return trays.holds(tray, place, 1) ? 0 : NO_PLACE;
     }
 
     private int wrongRow(int tray, int many) {
-        if (!isTray(tray)) {
-            return NO_TRAY;
-        }
-        if (trays.isMissing(tray)) {
-            return IS_MISSING;
+        int wrong = wrongTray(tray);
+        if (wrong != 0) {
+            return wrong;
         }
         return many > trays.lengths[tray] ? NO_PLACE : 0;
     }
@@ -875,6 +874,13 @@ public final class RainJury {
             }
         }
         return hasNoWeather() ? THERE_IS_NONE : 0;
+    }
+
+    private int wrongStrikes(int n) {
+        if (n < 1 || n > MOST_STRIKES) {
+            return BAD_NUMBER;
+        }
+        return world.hall.seatedCount() < 2 * n ? CANNOT_BE : 0;
     }
 
     private int wrongHarvest(int crop, int days) {
@@ -1007,6 +1013,8 @@ public final class RainJury {
         final int[] price = new int[MOST_JURORS];
         // By the swayed one first, as a ROUND asks for all that sway one JUROR.
         final int[] swayed = new int[MOST_JURORS * MOST_JURORS];
+        // The sets of those that sway one by more than 0, so that a ROUND can pass over all others.
+        final int[] swayers = new int[MOST_JURORS];
         final int[] weight = new int[MOST_PROOFS];
         final int[] ifGuilty = new int[MOST_WEATHERS];
         final int[] ifFree = new int[MOST_WEATHERS];
@@ -1020,6 +1028,9 @@ public final class RainJury {
             }
             for (int i = 0; i < swayed.length; i++) {
                 swayed[i] = 0;
+            }
+            for (int i = 0; i < swayers.length; i++) {
+                swayers[i] = 0;
             }
             for (int i = 0; i < growth.length; i++) {
                 growth[i] = 0;
@@ -1035,6 +1046,7 @@ public final class RainJury {
             System.arraycopy(other.stubborn, 0, stubborn, 0, stubborn.length);
             System.arraycopy(other.price, 0, price, 0, price.length);
             System.arraycopy(other.swayed, 0, swayed, 0, swayed.length);
+            System.arraycopy(other.swayers, 0, swayers, 0, swayers.length);
             System.arraycopy(other.weight, 0, weight, 0, weight.length);
             System.arraycopy(other.ifGuilty, 0, ifGuilty, 0, ifGuilty.length);
             System.arraycopy(other.ifFree, 0, ifFree, 0, ifFree.length);
@@ -1078,6 +1090,8 @@ public final class RainJury {
 
         void setSway(int swaying, int juror, int by) {
             swayed[juror * MOST_JURORS + swaying] = by;
+            int one = 1 << swaying;
+            swayers[juror] = by > 0 ? swayers[juror] | one : swayers[juror] & ~one;
         }
 
         int growthOf(int crop, int weather) {
@@ -1110,21 +1124,11 @@ public final class RainJury {
             for (int pass = 0; pass < counts[JURORS]; pass++) {
                 for (int i = 0; i < counts[JURORS]; i++) {
                     if ((found >> i & 1) != 0) {
-                        found |= swayersOf(i);
+                        found |= swayers[i];
                     }
                 }
             }
             return found & ~(1 << juror);
-        }
-
-        private int swayersOf(int juror) {
-            int set = 0;
-            for (int i = 0; i < counts[JURORS]; i++) {
-                if (swayOf(i, juror) > 0) {
-                    set |= 1 << i;
-                }
-            }
-            return set;
         }
 
         int priceOf(int set) {
@@ -1211,8 +1215,8 @@ public final class RainJury {
 
         int guiltyVotes() {
             int guilty = 0;
-            for (int i = 0; i < MOST_JURORS; i++) {
-                if (isSeated(i) && lean[i] > 0) {
+            for (int i = 0; i < MOST_JURORS && seated >> i != 0; i++) {
+                if ((seated >> i & 1) != 0 && lean[i] > 0) {
                     guilty++;
                 }
             }
@@ -1265,10 +1269,11 @@ public final class RainJury {
         }
 
         int pullOn(Court court, int juror) {
+            int swaying = court.swayers[juror] & seated;
             int together = 0;
-            for (int i = 0; i < court.counts[JURORS]; i++) {
-                int by = court.swayOf(i, juror);
-                if (by > 0 && isSeated(i)) {
+            for (int i = 0; i < MOST_JURORS && swaying >> i != 0; i++) {
+                if ((swaying >> i & 1) != 0) {
+                    int by = court.swayed[juror * MOST_JURORS + i];
                     together += lean[i] > 0 ? by : lean[i] < 0 ? -by : 0;
                 }
             }
