@@ -118,6 +118,9 @@ public final class BestTest {
         CHECK.good(hungry, "bribeSet()", hungry.bribeSet(), 0);
         CHECK.good(hungry, "b for nothing", hungry.bribes(1, 1, 1), 0);
         CHECK.good(hungry, "b", hungry.bribeSet(), 2);
+        RainJury cut = Check.with("juror a price 1;juror b leans less 50 price 99;juror c leans 50 price 99;sways b a 11;");
+        CHECK.good(cut, "99 is 0 behind nine ROUNDS", cut.bribes(1, 1, 9), 99);
+        CHECK.good(cut, "but not behind eight", cut.bribes(1, 1, 8), 1);
     }
 
     private static void strikes() {

@@ -45,6 +45,14 @@ public final class TextTest {
         x.feed(-1, 0, 0, 0, 0);
         CHECK.bad(x, "a byte of 255", x.court(1), 10);
         CHECK.due("fault(0)", x.fault(0), 1);
+        Check.feed(x, "juror abc leans 123;");
+        CHECK.bad(x, "a NUMBER that the text's end cuts", x.court(17), 10);
+        CHECK.due("fault(0)", x.fault(0), 2);
+        CHECK.due("fault(1)", x.fault(1), 17);
+        Check.feed(x, "juror lawn;law all;");
+        CHECK.bad(x, "a NAME that the text's end cuts", x.court(9), 10);
+        CHECK.due("fault(0)", x.fault(0), 2);
+        CHECK.due("fault(1)", x.fault(1), 6);
     }
 
     private static int longCourt(RainJury x) {
@@ -375,6 +383,13 @@ public final class TextTest {
         CHECK.good(x, "juror(0, 0)", x.juror(0, 0), 7);
         CHECK.good(x, "juror(0, 3)", x.juror(0, 3), 0);
         CHECK.bad(x, "no WEEKS", x.live(0), 8);
+        Check.court(x, "juror y leans 9 stubborn 8 price 7;juror z;sways y z 5;");
+        Check.court(x, "juror y;juror z;");
+        for (int what = 0; what < 4; what++) {
+            CHECK.good(x, "nothing of the one ahead", x.juror(0, what), 0);
+        }
+        CHECK.good(x, "nothing of the one ahead", x.sways(0, 1), 0);
+        CHECK.good(x, "nothing of the one ahead", x.behind(1), 0);
     }
 
     private static void oldOnesStay() {

@@ -66,6 +66,9 @@ public final class WeekTest {
         CHECK.good(x, "ROUND 9,999", x.many(7), 9999);
         CHECK.good(x, "COINS 9,999", x.many(9), 9999);
         life(x, "limits", 2, 0, 0, 0, 0);
+        Check.weeks(x, "talk 1;");
+        x.live(0);
+        life(x, "a ROUND more", 1, 0, 0, 0, 0);
     }
 
     private static void tested(String test, boolean holds) {
