@@ -2016,7 +2016,7 @@ public final class RainJury {
         boolean findOrder(Court court, Hall hall, int verdict) {
             stages[0].copyFrom(hall);
             for (int length = 0; length <= MOST_ORDER; length++) {
-                if (extend(court, 0, length, verdict)) {
+                if (extend(this, court, 0, length, verdict)) {
                     System.arraycopy(tried, 0, order, 0, length);
                     orderLength = length;
                     return true;
@@ -2025,19 +2025,19 @@ public final class RainJury {
             return false;
         }
 
-        private boolean extend(Court court, int depth, int length, int verdict) {
-            Hall here = stages[depth];
+        private static boolean extend(Counsel counsel, Court court, int depth, int length, int verdict) {
+            Hall here = counsel.stages[depth];
             if (depth >= length || depth >= MOST_ORDER) {
                 return here.ruling(court.law) == verdict;
             }
-            Hall behind = stages[depth + 1];
+            Hall behind = counsel.stages[depth + 1];
             for (int proof = 0; proof < court.counts[PROOFS]; proof++) {
                 if (!here.wasShown(proof)) {
                     behind.copyFrom(here);
                     behind.present(court, proof);
                     behind.talkOn(court, 1);
-                    tried[depth] = proof;
-                    if (extend(court, depth + 1, length, verdict)) {
+                    counsel.tried[depth] = proof;
+                    if (extend(counsel, court, depth + 1, length, verdict)) {
                         return true;
                     }
                 }
