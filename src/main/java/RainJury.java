@@ -498,7 +498,10 @@ public final class RainJury {
         if (!world.hall.isSeated(juror)) {
             return none(CANNOT_BE);
         }
-        return answer(world.hall.pullOn(world.court, juror));
+        // The turn is played, as what goes beyond 99 or -99 is cut there too.
+        trial.copyFrom(world.hall);
+        trial.shift(juror, trial.pullOn(world.court, juror));
+        return answer(trial.lean[juror] - world.hall.lean[juror]);
     }
 
     public int behind(int juror) {

@@ -500,7 +500,7 @@ final class Model {
         return (int) ask(() -> {
             need("juror", juror);
             refuseIf(!now.seated[juror], 9);
-            return pullOn(now, juror);
+            return cut(now.lean[juror] + pullOn(now, juror)) - now.lean[juror];
         });
     }
 

@@ -9,6 +9,7 @@ public final class VoteTest {
         lacks();
         nearest();
         pulls();
+        pullsAreCut();
         behind();
         settles();
         after();
@@ -147,6 +148,28 @@ public final class VoteTest {
         CHECK.bad(x, "not SEATED", x.pull(3), 9);
         CHECK.bad(x, "pull(4)", x.pull(4), 2);
         CHECK.bad(x, "pull(-1)", x.pull(-1), 2);
+    }
+
+    /** A LEANING stays from -99 to 99, so it moves no further than there is room. */
+    private static void pullsAreCut() {
+        RainJury x = Check.with("juror a leans 1;juror b stubborn 5 price 2;juror c stubborn 6;sways a b 6;sways a c 6;hunger 1;");
+        int[] leanings = {99, 98, 94, 93, 92, 0, -99};
+        int[] moves = {0, 1, 5, 6, 6, 6, 6};
+        for (int side = 1; side >= -1; side -= 2) {
+            x.lean(0, side);
+            for (int i = 0; i < leanings.length; i++) {
+                x.lean(1, side * leanings[i]);
+                CHECK.good(x, "at " + side * leanings[i] + " to " + side, x.pull(1), side * moves[i]);
+                CHECK.good(x, "all stays", x.juror(1, 0), side * leanings[i]);
+            }
+            x.lean(2, side * 98);
+            CHECK.good(x, "no more than STUBBORN, near the end", x.pull(2), 0);
+            x.bribe(1, side);
+            CHECK.good(x, "bribed to where it is pulled", x.pull(1), 0);
+            x.bribe(1, -side);
+            CHECK.good(x, "bribed away from it", x.pull(1), 6 * side);
+        }
+        CHECK.good(x, "the ROUND stays", x.many(7), 0);
     }
 
     private static void behind() {
