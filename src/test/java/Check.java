@@ -3,9 +3,17 @@ final class Check {
     private final String name;
     private int wrong = 0;
     private int asked = 0;
+    private int sentences = 0;
+    private String sentence = "";
 
     Check(String name) {
         this.name = name;
+    }
+
+    /** What the document says; the answers from here on are due by it. */
+    void says(String words) {
+        sentence = " [" + words + "]";
+        sentences++;
     }
 
     void due(String call, long got, long want) {
@@ -13,7 +21,7 @@ final class Check {
         if (got != want) {
             wrong++;
             if (wrong <= 40) {
-                System.out.println(name + ": " + call + " answered " + got + ", due is " + want);
+                System.out.println(name + sentence + ": " + call + " answered " + got + ", due is " + want);
             }
         }
     }
@@ -50,7 +58,8 @@ final class Check {
     }
 
     void end() {
-        System.out.println(name + ": " + asked + " answers, " + wrong + " not as due");
+        String of = sentences > 0 ? " to " + sentences + " sentences" : "";
+        System.out.println(name + ": " + asked + " answers" + of + ", " + wrong + " not as due");
         if (wrong != 0) {
             System.exit(1);
         }
