@@ -10,6 +10,7 @@ public final class CourtEdgeTest {
         tapeOf900();
         tapeInOrder();
         courtOfFirstBytes();
+        cutByItsEnd();
         tapeBehindCourt();
         weeksOfFirstBytes();
         faultOfLatest();
@@ -45,6 +46,7 @@ public final class CourtEdgeTest {
         leastKind();
         fullCourt();
         courtTaken();
+        nothingOfTheOldOne();
         CHECK.end();
     }
 
@@ -154,7 +156,9 @@ public final class CourtEdgeTest {
         CHECK.bad(x, "weeks(301)", x.weeks(301), 5);
         CHECK.bad(x, "weeks(320)", x.weeks(320), 5);
         CHECK.bad(x, "weeks(321)", x.weeks(321), 5);
-        CHECK.bad(x, "weeks(-1)", x.weeks(-1), 5);
+        for (int n : new int[] {-1, 900, 901, Integer.MIN_VALUE, Integer.MAX_VALUE}) {
+            CHECK.bad(x, "weeks(" + n + ")", x.weeks(n), 5);
+        }
         CHECK.bad(x, "no WEEKS yet", x.live(0), 8);
         CHECK.good(x, "weeks(300)", x.weeks(300), 2);
         CHECK.good(x, "live(0)", x.live(0), 2);
@@ -201,7 +205,10 @@ public final class CourtEdgeTest {
         RainJury x = new RainJury();
         CHECK.good(x, "900", Check.court(x, " ".repeat(892) + "juror a;"), 1);
         Check.feed(x, " ".repeat(900));
-        CHECK.bad(x, "901", x.court(901), 5);
+        for (int n : new int[] {901, 1000, Integer.MAX_VALUE}) {
+            CHECK.bad(x, "court(" + n + ")", x.court(n), 5);
+            CHECK.bad(x, "weeks(" + n + ")", x.weeks(n), 5);
+        }
         CHECK.good(x, "899", x.court(899), 0);
         CHECK.bad(x, "its last byte", Check.court(x, " ".repeat(899) + "@"), 10);
         CHECK.due("its place", x.fault(1), 899);
@@ -762,5 +769,69 @@ public final class CourtEdgeTest {
         CHECK.good(x, "as told", x.juror(0, 0), 8);
         CHECK.good(x, "follows(0, 1)", x.follows(0, 1), 0);
         CHECK.bad(x, "no WEEKS", x.live(0), 8);
+    }
+
+    private static void nothingOfTheOldOne() {
+        CHECK.says("a COURT that is taken is there in place of that ahead: 0 without, never without, most without, itself without");
+        StringBuilder old = new StringBuilder();
+        for (int i = 0; i < 5; i++) {
+            old.append("juror j").append((char) ('a' + i)).append(" leans 9 stubborn 2 price 3;");
+        }
+        for (int i = 0; i < 5; i++) {
+            for (int k = 0; k < 5; k++) {
+                old.append(i == k ? "" : "sways j" + (char) ('a' + i) + " j" + (char) ('a' + k) + " 7;");
+            }
+        }
+        old.append("weather u;weather v;follows u guilty v free v;follows v guilty u free u;crop k on u 1 on v 1;crop l on u 1 on v 1;");
+        RainJury x = Check.with(old.append("proof p 3;hunger 1;law all;").toString());
+        for (int i = 0; i < 5; i++) {
+            CHECK.good(x, "all sway JUROR " + i, x.behind(i), 31 - (1 << i));
+        }
+        Check.court(x, "juror ja;juror jb;juror jc;juror jd;juror je leans 1;weather u;weather v;crop k;crop l;");
+        for (int i = 0; i < 5; i++) {
+            CHECK.good(x, "nobody sways JUROR " + i, x.behind(i), 0);
+            CHECK.good(x, "nobody pulls JUROR " + i, x.pull(i), 0);
+            CHECK.good(x, "STUBBORN", x.juror(i, 2), 0);
+            CHECK.good(x, "PRICE", x.juror(i, 3), 0);
+            for (int k = 0; k < 5; k++) {
+                CHECK.due("sways(" + i + ", " + k + ")", x.sways(i, k), i == k ? -1 : 0);
+            }
+        }
+        for (int i = 0; i < 2; i++) {
+            for (int k = 0; k < 2; k++) {
+                CHECK.good(x, "grows(" + i + ", " + k + ")", x.grows(i, k), 0);
+            }
+            CHECK.good(x, "follows(" + i + ", 1)", x.follows(i, 1), i);
+            CHECK.good(x, "follows(" + i + ", -1)", x.follows(i, -1), i);
+        }
+        x.talk(3);
+        for (int i = 0; i < 5; i++) {
+            CHECK.good(x, "nobody moved", x.juror(i, 0), i == 4 ? 1 : 0);
+        }
+        CHECK.good(x, "by most", x.verdict(), -1);
+        CHECK.bad(x, "no PROOF", x.proof(0), 2);
+    }
+
+    private static void cutByItsEnd() {
+        CHECK.says("10: the first n bytes: what is behind them on the tape is not read");
+        String text = "juror abc leans 98 stubborn 19;";
+        int[] faults = {17, 25, 29};
+        for (int n : faults) {
+            RainJury x = new RainJury();
+            Check.feed(x, text);
+            CHECK.bad(x, "court(" + n + ")", x.court(n), 10);
+            CHECK.due("fault(0)", x.fault(0), 2);
+            CHECK.due("fault(1)", x.fault(1), n == 25 ? 19 : n);
+        }
+        RainJury x = new RainJury();
+        Check.feed(x, "hunger 99;law all;");
+        CHECK.bad(x, "hunger 9, without its end", x.court(8), 10);
+        CHECK.due("fault(1)", x.fault(1), 8);
+        CHECK.good(x, "an empty text behind it", x.court(0), 0);
+        Check.feed(x, "juror a;;;;;;;;;;;;;");
+        CHECK.good(x, "signs behind it", x.court(8), 1);
+        Check.feed(x, "hunger 12345;       ");
+        CHECK.bad(x, "hunger 1234, without its end", x.court(11), 10);
+        CHECK.due("fault(0): 4, not 1", x.fault(0), 4);
     }
 }

@@ -28,6 +28,7 @@ public final class DeedEdgeTest {
         roundIsOfTheDay();
         dayTells();
         dayGrows();
+        dayGrowsFour();
         dayWeather();
         dayBeginsAnew();
         dayWithoutThings();
@@ -65,6 +66,9 @@ public final class DeedEdgeTest {
         CHECK.good(x, "none SHOWN", x.many(11), 0);
         CHECK.good(x, "the last", x.show(1), 1);
         CHECK.good(x, "the first", x.show(0), 1);
+        for (int proof : new int[] {-32, -31, -1, 2, 32, 33, 64, LEAST, LEAST + 1, MOST}) {
+            CHECK.bad(x, "show(" + proof + "), all SHOWN", x.show(proof), 2);
+        }
         RainJury y = Check.with("juror a;");
         CHECK.bad(y, "no PROOFS", y.show(0), 2);
     }
@@ -421,6 +425,21 @@ public final class DeedEdgeTest {
         }
     }
 
+    private static void dayGrowsFour() {
+        CHECK.says("DAY ends: each CROP GROWS: four CROPS, six WEATHERS");
+        RainJury x = Check.with("juror z leans 1;weather a;weather b;weather c;weather d;weather e;weather f;follows a guilty b free a;"
+                + "follows b guilty c free a;follows c guilty d free a;follows d guilty e free a;follows e guilty f free a;"
+                + "crop k on a 1 on f 9;crop l on b 2 on f 8;crop m on c 3 on f 7;crop n on d 4 on e less 5 on f 6;");
+        int[][] want = {{0, 0, 0, 0}, {1, 0, 0, 0}, {1, 2, 0, 0}, {1, 2, 3, 0}, {1, 2, 3, 4}, {1, 2, 3, -1}, {10, 10, 10, 5}, {19, 18, 17, 11}};
+        for (int day = 0; day < want.length; day++) {
+            CHECK.good(x, "WEATHER of DAY " + day, x.many(8), Math.min(day, 5));
+            for (int i = 0; i < 4; i++) {
+                CHECK.good(x, "crop(" + i + ") on DAY " + day, x.crop(i), want[day][i]);
+            }
+            CHECK.good(x, "endDay()", x.endDay(), 1);
+        }
+    }
+
     private static void dayWeather() {
         CHECK.says("the next day's WEATHER follows (HUNG: it stays)");
         RainJury x = Check.with("juror a leans 1;juror b leans less 1;weather u;weather v;weather w;follows u guilty v free w;law all;");
@@ -465,6 +484,14 @@ public final class DeedEdgeTest {
         RainJury y = Check.with("juror a leans 1;weather u;weather v;follows u guilty v free u;");
         CHECK.good(y, "GUILTY", y.endDay(), 1);
         CHECK.good(y, "v", y.many(8), 1);
+        RainJury nobody = Check.with("weather u;weather v;follows u guilty v free v;crop k on u 4 on v 9;");
+        CHECK.good(nobody, "HUNG", nobody.endDay(), 0);
+        CHECK.good(nobody, "u stays", nobody.many(8), 0);
+        CHECK.good(nobody, "crop(0)", nobody.crop(0), 4);
+        RainJury one = Check.with("juror a leans 1;weather u;crop k on u 4;");
+        CHECK.good(one, "GUILTY", one.endDay(), 1);
+        CHECK.good(one, "u behind u", one.many(8), 0);
+        CHECK.good(one, "crop(0)", one.crop(0), 4);
     }
 
     private static void dayLimit() {

@@ -308,6 +308,9 @@ public final class StepEdgeTest {
         faultBehind(full, "go;", 2);
         faultBehind(full, ";", 2);
         faultBehind(full, "@", 1);
+        fine("loop1;end;".repeat(30), 30);
+        RainJury most = Check.with(COURT, "loop1;end;".repeat(30));
+        CHECK.good(most, "thirty with thirty ends in 300 bytes", most.live(0), 30);
         String ends = "loop 1;" + "mood;".repeat(29) + "end;";
         fine(ends, 30);
         faultBehind(ends, "mood;", 6);

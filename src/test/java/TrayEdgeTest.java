@@ -6,6 +6,7 @@ public final class TrayEdgeTest {
 
     public static void main(String[] args) {
         newObject();
+        fiveHundredTwelve();
         statusIsOfTheLatest();
         callsWithoutStatus();
         fractions();
@@ -35,17 +36,27 @@ public final class TrayEdgeTest {
         for (int tray = 0; tray < 4; tray++) {
             CHECK.bad(x, "read", x.read(tray, 0), 3);
         }
-        for (int what = 0; what < 4; what++) {
-            CHECK.good(x, "many(" + what + ")", x.many(what), 0);
+        for (int what = 0; what < 12; what++) {
+            boolean none = what == 4 || what == 8;
+            CHECK.due(x, "many(" + what + ")", x.many(what), none ? -1 : 0, none ? 8 : 0);
         }
         CHECK.bad(x, "juror(0, 0)", x.juror(0, 0), 2);
-        CHECK.good(x, "nobody is SEATED", x.many(10), 0);
         CHECK.good(x, "HUNG", x.verdict(), 0);
         CHECK.bad(x, "no WEEKS", x.live(0), 8);
         CHECK.bad(x, "no MARKS", x.back(), 8);
         CHECK.bad(x, "court(1) of an empty tape", x.court(1), 5);
         CHECK.bad(x, "weeks(1) of an empty tape", x.weeks(1), 5);
         CHECK.due("feed on an empty tape", x.feed(0, 0, 0, 0, 0), 20);
+    }
+
+    private static void fiveHundredTwelve() {
+        CHECK.says("An object is used for at most 512 calls: the 512th is answered as the first");
+        RainJury x = new RainJury();
+        x.tray(0, 2, 60);
+        for (int i = 1; i <= 510; i++) {
+            CHECK.due("write", x.write(0, i % 60, i), true);
+        }
+        CHECK.due("read", x.read(0, 30), 510);
     }
 
     private static void statusIsOfTheLatest() {

@@ -474,6 +474,10 @@ public final class WeekEdgeTest {
         }
         Check.weeks(x, "verdict;");
         life(x, 0, 1, 0, 1, 0, 1, 0);
+        Check.weeks(x, "loop 99;mood;mood;mood;verdict;end;");
+        life(x, 0, 300, 0, 74, 0, 74, 1);
+        Check.weeks(x, "mood;");
+        life(x, 0, 1, 0, 0, 0, 0, 0);
     }
 
     private static void livedDays() {
